@@ -1667,15 +1667,17 @@ public final class OwnText {
 
     /** Prints the NORMAL FORM of a Score. */
     private static final class Printer {
-        // A number of a long has at most 19 digits.
         private static final int DIGITS_MOST = 20;
+        // More than 300 CHORDS of six and 900 SYLLABLES of twelve bytes can need.
+        private static final int BYTES_MOST = 40000;
+        private static final int BYTES_FIRST = 256;
 
         private byte[] bytes;
         private int size;
         private final byte[] digits;
 
         Printer() {
-            bytes = new byte[256];
+            bytes = new byte[BYTES_FIRST];
             digits = new byte[DIGITS_MOST];
         }
 
@@ -1702,8 +1704,8 @@ public final class OwnText {
         }
 
         private void put(int b) {
-            if (size >= bytes.length) {
-                bytes = Arrays.copyOf(bytes, Math.max(256, bytes.length * 2));
+            if (size >= bytes.length && size < BYTES_MOST) {
+                bytes = Arrays.copyOf(bytes, Math.min(BYTES_MOST, 2 * size + BYTES_FIRST));
             }
             if (size < bytes.length) {
                 bytes[size] = (byte) b;
