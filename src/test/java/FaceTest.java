@@ -12,6 +12,7 @@ public final class FaceTest {
         tapeAfterReading();
         faultStays();
         faultLeavesTheRest();
+        nothingStaysOpen();
         counting();
         face();
         Check.done();
@@ -95,6 +96,31 @@ public final class FaceTest {
         Check.same("what was printed", Check.printedText(x), Check.normalForm(Check.good(text)));
         Check.fails("a throw", IllegalArgumentException.class, () -> x.count(9));
         Check.same("behind a throw", Snapshot.of(x), before);
+    }
+
+    /** A FAULT in the midst of a text leaves nothing of it for the next one. */
+    private static void nothingStaysOpen() {
+        String[] faulty = {"=a p{$p", "L{X 1 2{g'' |}}", "T 3/2{c |}", "=a p{$p} $a{c |}", "[c / d |]",
+            "[[[", "=a{L{L{L{L{L{L{L{", "R 9{M 3/4 c |}", "c~", "c W 1 \"a b\""};
+        OwnText x = new OwnText();
+        for (int n = 0; n < 30; n++) {
+            for (String text : faulty) {
+                Check.same("a FAULT", Check.read(x, text) <= -1000 ? 1 : 0, 1);
+            }
+        }
+        Check.read(x, "=a p{$p");
+        Check.same("no PARAMETER is KNOWN", Check.read(x, "$p"), -1001);
+        Check.same("no PARAMETER is KNOWN", x.fault(), 4);
+        String good = "M 3/4 =a p{$p} $a{c8 W 1 \"a\"} L{g} X 1 2{c} T 3/2{d} [e / f] c "
+                + Check.times("T 1/1{", 8) + "c" + Check.times("}", 8);
+        Check.read(x, good);
+        Check.same("as on a new object", Snapshot.of(x), Snapshot.of(Check.good(good)));
+        String many = "R 0{" + Check.times("<cdefga>", 185) + "}";
+        for (int n = 0; n < 3; n++) {
+            Check.same("many PITCHES", Check.read(x, many), 0);
+        }
+        Check.read(x, good);
+        Check.same("behind many PITCHES", Snapshot.of(x), Snapshot.of(Check.good(good)));
     }
 
     private static void counting() {

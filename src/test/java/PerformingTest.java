@@ -62,6 +62,7 @@ public final class PerformingTest {
         Check.good("=a{T 1/1{c}} " + Check.times("T 1/1{", 7) + "$a" + Check.times("}", 7));
         Check.faulty("=a{c T 1/1{c}} " + Check.times("T 1/1{", 8) + "$a" + Check.times("}", 8), 5, 5);
         Check.good(Check.times("T 1/1{", 8) + "c" + Check.times("}", 8) + "T 1/1{c}");
+        Check.faulty("=a{T 1/1{c}} $a $a " + Check.times("T 1/1{", 8) + "$a" + Check.times("}", 8), 5, 3);
     }
 
     private static void pitches() {
@@ -193,6 +194,7 @@ public final class PerformingTest {
         Check.faulty(chain + "=m p{$l{$p}} $m{c}", 5, chain.length() - 4);
         Check.faulty(chain + "=z{c} $l{$z}", 5, chain.length() + 9);
         Check.good(chain + "=z{c} $z $k{$z}");
+        Check.faulty(chain + "=z{c} $z $l{$z}", 5, chain.length() + 12);
         // as deep as BLOCKS can be open at once
         StringBuilder deep = new StringBuilder("=a{" + nested("c", 7) + "}");
         for (char n = 'b'; n <= 't'; n++) {
