@@ -4,6 +4,7 @@ import java.nio.charset.StandardCharsets;
 final class Check {
     private static int wrong = 0;
     private static int asked = 0;
+    private static String sentence = "";
 
     private Check() {
     }
@@ -13,19 +14,21 @@ final class Check {
         long answer();
     }
 
+    /** The words of the document that the answers from here on are due by. */
+    static void sentence(String words) {
+        sentence = words;
+    }
+
     static void same(String what, long got, long due) {
-        asked++;
-        if (got != due) {
-            wrong++;
-            System.out.println(what + " answered " + got + ", due is " + due);
-        }
+        same(what, Long.toString(got), Long.toString(due));
     }
 
     static void same(String what, String got, String due) {
         asked++;
         if (!got.equals(due)) {
             wrong++;
-            System.out.println(what + " answered " + got + ", due is " + due);
+            String by = sentence.isEmpty() ? "" : ", by: " + sentence;
+            System.out.println(what + " answered " + got + ", due is " + due + by);
         }
     }
 
@@ -72,6 +75,11 @@ final class Check {
         OwnText x = new OwnText();
         same("read of " + text, read(x, text), -1000 - place);
         same("fault of " + text, x.fault(), kind);
+    }
+
+    /** Good, with this many EVENTS. */
+    static void holds(String text, int events) {
+        same("events of " + text, good(text).count(0), events);
     }
 
     static String printedText(OwnText x) {
